@@ -1,0 +1,28 @@
+/** Counts the answers that are not as due, and tells of each. */
+final class Check {
+    private int asked = 0;
+    private int wrong = 0;
+
+    void due(String what, long got, long want) {
+        asked++;
+        if (got != want) {
+            wrong++;
+            System.out.println(what + " answered " + got + ", due is " + want);
+        }
+    }
+
+    void due(String what, boolean got, boolean want) {
+        due(what, got ? 1 : 0, want ? 1 : 0);
+    }
+
+    boolean isClean() {
+        return wrong == 0;
+    }
+
+    void end(String name) {
+        System.out.println(name + ": " + asked + " answers, " + wrong + " not as due");
+        if (wrong != 0 || asked == 0) {
+            System.exit(1);
+        }
+    }
+}
