@@ -6,6 +6,7 @@ import java.util.Random;
 public final class ModelTest {
     private static final int RUNS = 120;
     private static final int CALLS = 512;
+    private static final int BRIDGES = 2000;
     private static final Check CHECK = new Check();
 
     private final Random random;
@@ -34,6 +35,9 @@ public final class ModelTest {
             if (!CHECK.isClean()) {
                 System.out.println("run " + run + ", its calls: " + test.calls);
             }
+        }
+        for (int bridge = 0; bridge < BRIDGES && CHECK.isClean(); bridge++) {
+            new ModelTest(bridge).rateOne();
         }
         CHECK.end("ModelTest");
     }
@@ -116,6 +120,25 @@ public final class ModelTest {
         long behind = model.count(3) == 0 ? (chance(95) ? 0 : 1) : around(31);
         long load = around(loadRange);
         due("axle(" + behind + ", " + load + ")", real.axle(behind, load), model.axle(behind, load));
+    }
+
+    /** A bridge of six corners under five axles: ratings of many digits. */
+    private void rateOne() {
+        due("nodes", real.node() + real.node(), model.node() + model.node());
+        due("road", real.road(0, 1, 1, 1, 1), model.road(0, 1, 1, 1, 1));
+        due("bridge", real.bridge(0), model.bridge(0));
+        for (int corner = 0; corner < 6; corner++) {
+            long at = 10 * corner + below(10);
+            long above = below(1101) - 100 * below(11);
+            long lower = belowLeast + below(1001 - belowLeast);
+            due("row", real.row(0, at, above, lower), model.row(0, at, above, lower));
+        }
+        for (int axle = 0; axle < 5; axle++) {
+            addAxle();
+            due("upper", real.rating(0, 0), model.rating(0, 0));
+            due("lower", real.rating(0, 1), model.rating(0, 1));
+            due("bars", real.bars(0, 1), model.bars(0, 1));
+        }
     }
 
     private void callOne() {

@@ -19,6 +19,7 @@ public final class PromisesTest {
         promise7Size();
         promise8Turn();
         promise9Hours();
+        promise9HoursAtTheDaysEnds();
         promise9HoursAllDay();
         promise10Rating();
         promise10RatingOfRows();
@@ -366,6 +367,22 @@ public final class PromisesTest {
         due("the other way too", x.run(1, 0, 100), 111);
     }
 
+    private static void promise9HoursAtTheDaysEnds() {
+        HeavyRoutes x = withNodes(2);
+        lay(x, 0, 1, 10);
+        due("the last minute", x.hours(0, 1439, 1439), true);
+        due("before the last minute", x.run(0, 1, 1438), 10);
+        due("the last minute", x.run(0, 1, 1439), 11);
+        due("the first minute", x.hours(0, 0, 0), true);
+        due("the first minute", x.run(0, 1, 0), 11);
+        due("both", x.run(0, 1, 1439), 12);
+        HeavyRoutes y = withNodes(2);
+        lay(y, 0, 1, 10);
+        due("from the last to the first", y.hours(0, 1439, 0), true);
+        due("from the last to the first", y.run(0, 1, 1439), 12);
+        due("the second minute", y.run(0, 1, 1), 10);
+    }
+
     private static void promise9HoursAllDay() {
         HeavyRoutes x = withNodes(2);
         lay(x, 0, 1, 10);
@@ -431,6 +448,9 @@ public final class PromisesTest {
         // The heavy axle at 10, the other one at 5 behind it, whichever way that is.
         dueRating("backward", rated(steep, new long[][] {{0, 1}, {5, 3}}), 7, 2);
         dueRating("forward", rated(steep, new long[][] {{0, 3}, {5, 1}}), 7, 2);
+        long[][] gentle = {{0, 0, 1}, {2, 1, 1}, {12, 0, 1}};
+        dueRating("forward, the last axle at a corner", rated(gentle, new long[][] {{0, 1}, {5, 3}}), 7, 2);
+        dueRating("backward, the first axle at a corner", rated(gentle, new long[][] {{0, 3}, {5, 1}}), 7, 2);
         long[][] mixed = {{0, 1, 7}, {10, 5, 9}, {30, -2, 3}};
         dueRating("two axles", rated(mixed, new long[][] {{0, 2}, {4, 3}}), 257, 105);
         dueRating("three axles", rated(mixed, new long[][] {{0, 1}, {6, 5}, {30, 4}}), 108, 35);
@@ -448,18 +468,34 @@ public final class PromisesTest {
         dueRating("after another corner", x, 37, 30);
         due("refused", x.row(0, 25, 1, 1), false);
         dueRating("after a refused corner", x, 37, 30);
+        x = rated(new long[][] {{0, -1, 1}, {10, 1, 1}, {20, -1, 1}}, new long[][] {{0, 1}});
+        dueRating("before a relieving axle", x, 1, 1);
+        x.axle(10, 1);
+        dueRating("it falls", x, 0, 1);
     }
 
     private static void promise10RatingOfManyDigits() {
-        // 77886717213902061272937 / 15423824656177888951, worked with another program.
-        HeavyRoutes x = rated(
+        // Worked with another program.
+        dueDigits(
             new long[][] {{0, 1000, 997}, {7, 999, 991}, {16, 998, 983}, {27, 1000, 977}, {40, 997, 971}, {57, 989, 967}},
-            new long[][] {{0, 991}, {9, 997}, {10, 1000}, {13, 983}, {20, 977}});
+            new long[][] {{0, 991}, {9, 997}, {10, 1000}, {13, 983}, {20, 977}},
+            "77886717213902061272937", "15423824656177888951");
+        dueDigits(
+            new long[][] {{9, 469, 929}, {24, -362, 977}, {29, 656, 971}, {31, 637, 967}, {42, 405, 937}, {57, -143, 911}},
+            new long[][] {{0, 174}, {11, 515}, {8, 958}, {10, 353}, {1, 149}},
+            "116386780061342837005582", "120032235287905556055");
+        dueDigits(
+            new long[][] {{1, -963, 919}, {27, 277, 947}, {28, 509, 941}, {40, -85, 997}, {43, -367, 983}, {57, -728, 937}},
+            new long[][] {{0, 283}, {12, 764}, {4, 256}, {2, 794}, {9, 752}},
+            "203251000573328137934711", "410616147056479253526");
+    }
+
+    private static void dueDigits(long[][] corners, long[][] axles, String upper, String lower) {
+        HeavyRoutes x = rated(corners, axles);
         BigInteger eighteen = BigInteger.TEN.pow(18);
-        long upper = new BigInteger("77886717213902061272937").mod(eighteen).longValueExact();
-        long lower = new BigInteger("15423824656177888951").mod(eighteen).longValueExact();
-        dueRating("many digits", x, upper, lower);
-        due("its bridge", x.bars(0, 1), 4);
+        dueRating("many digits", x, new BigInteger(upper).mod(eighteen).longValueExact(),
+            new BigInteger(lower).mod(eighteen).longValueExact());
+        due("its bridge bars, whatever the lowest digits are", x.bars(0, 1), 4);
     }
 
     private static void promise11Kept() {
