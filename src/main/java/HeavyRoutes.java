@@ -274,18 +274,11 @@ public final class HeavyRoutes {
             case 5:
                 return finder.foundCount;
             case 6:
-                return countWays();
+                finder.lookThrough();
+                return finder.wayCount;
             default:
                 return BAD;
         }
-    }
-
-    private int countWays() {
-        if (!finder.hasBegun) {
-            return 0;
-        }
-        finder.lookThrough();
-        return finder.wayCount;
     }
 
     private static boolean isWithin(long value, long least, long greatest) {
@@ -881,13 +874,15 @@ public final class HeavyRoutes {
             return best.end - minute;
         }
 
-        /** Counts all ways, and finds the best one of those that may be found now. */
+        /** Counts all ways (none before a beginning), and finds the best one of those that may be found now. */
         void lookThrough() {
             usable = net.usableRoads();
             visited = 1 << from;
             wayCount = 0;
             hasBest = false;
-            goOn(from, minute, 0);
+            if (hasBegun) {
+                goOn(from, minute, 0);
+            }
         }
 
         private void goOn(int node, int now, int depth) {

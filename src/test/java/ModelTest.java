@@ -180,7 +180,8 @@ public final class ModelTest {
             case 8, 9 -> {
                 int from = around(1440);
                 int to = chance(50) ? around(1440) : Math.floorMod(from + below(300), 1440);
-                due("hours(" + road + ", " + from + ", " + to + ")", real.hours(road, from, to), model.hours(road, from, to));
+                due("hours(" + road + ", " + from + ", " + to + ")",
+                    real.hours(road, from, to), model.hours(road, from, to));
             }
             case 10, 11 -> due("slow(" + bridge + ", " + on + ")", real.slow(bridge, on), model.slow(bridge, on));
             case 12 -> due("change(" + road + ", " + on + ")", real.change(road, on), model.change(road, on));
@@ -197,7 +198,7 @@ public final class ModelTest {
 
     private void callAlternate() {
         int lower = chance(60) ? 1 + below(7) : around(102);
-        int upper = chance(95) ? below(Math.max(1, lower) == Integer.MAX_VALUE ? 9 : Math.max(1, lower) + 1) : around(102);
+        int upper = chance(95) ? below(Math.max(1, Math.min(lower, 101)) + 1) : around(102);
         due("alternate(" + upper + ", " + lower + ")", real.alternate(upper, lower), model.alternate(upper, lower));
     }
 

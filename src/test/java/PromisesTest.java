@@ -682,7 +682,10 @@ public final class PromisesTest {
         due("a rating above 1 does not", y.run(0, 1, 0), -1);
     }
 
-    /** From 0 to 3: by 1 (roads 0 1, 20), by 2 (2 3, 30), by 1 and 2 (0 4 3, 32), by 2 and 1 (2 4 1, 28), road 5 (40). */
+    /**
+     * From 0 to 3: by 1 (roads 0 1, 20 minutes), by 2 (2 3, 26), by 2 and 1 (2 4 1, 28), by 1 and 2 (0 4 3, 32), and by
+     * road 5 (40).
+     */
     private static HeavyRoutes withFiveWays() {
         HeavyRoutes x = withNodes(4);
         lay(x, 0, 1, 10);
