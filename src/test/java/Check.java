@@ -2,17 +2,27 @@
 final class Check {
     private int asked = 0;
     private int wrong = 0;
+    private String subject = "";
+
+    /** What the answers from now on are about. */
+    void about(String newSubject) {
+        subject = newSubject;
+    }
 
     void due(String what, long got, long want) {
         asked++;
         if (got != want) {
             wrong++;
-            System.out.println(what + " answered " + got + ", due is " + want);
+            System.out.println(subject + what + " answered " + got + ", due is " + want);
         }
     }
 
     void due(String what, boolean got, boolean want) {
         due(what, got ? 1 : 0, want ? 1 : 0);
+    }
+
+    int asked() {
+        return asked;
     }
 
     boolean isClean() {

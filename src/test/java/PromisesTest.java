@@ -1,13 +1,7 @@
 import java.math.BigInteger;
 
 /** Each promise of the document by worked examples: ordinary inputs, the edges that it names, wrong inputs. */
-public final class PromisesTest {
-    private static final Check CHECK = new Check();
-    private static final int BAD = HeavyRoutes.BAD;
-    private static final int NONE = HeavyRoutes.NONE;
-    private static final int MIN = Integer.MIN_VALUE;
-    private static final int MAX = Integer.MAX_VALUE;
-
+public final class PromisesTest extends Samples {
     public static void main(String[] args) {
         promise1New();
         promise2Node();
@@ -42,70 +36,6 @@ public final class PromisesTest {
         promise22Change();
         promise23Count();
         CHECK.end("PromisesTest");
-    }
-
-    private static void due(String what, long got, long want) {
-        CHECK.due(what, got, want);
-    }
-
-    private static void due(String what, boolean got, boolean want) {
-        CHECK.due(what, got, want);
-    }
-
-    /** A new object with some nodes. */
-    private static HeavyRoutes withNodes(int nodes) {
-        HeavyRoutes x = new HeavyRoutes();
-        for (int i = 0; i < nodes; i++) {
-            x.node();
-        }
-        return x;
-    }
-
-    /** A road of ordinary height and width. */
-    private static int lay(HeavyRoutes x, int a, int b, int minutes) {
-        return x.road(a, b, minutes, 500, 500);
-    }
-
-    /** Nodes 0 and 1, road 0 of 10 minutes between them, and the way by it at hand. */
-    private static HeavyRoutes withWay() {
-        HeavyRoutes x = withNodes(2);
-        lay(x, 0, 1, 10);
-        x.run(0, 1, 0);
-        return x;
-    }
-
-    /** As withWay(), with a bridge on the road. */
-    private static HeavyRoutes withBridgeAndWay() {
-        HeavyRoutes x = withWay();
-        x.bridge(0);
-        x.run(0, 1, 0);
-        return x;
-    }
-
-    /** A bridge alone: its row by place, above, below; then one axle or more by behind, load. */
-    private static HeavyRoutes rated(long[][] corners, long[][] axles) {
-        HeavyRoutes x = withBridgeAndWay();
-        for (long[] corner : corners) {
-            due("row", x.row(0, corner[0], corner[1], corner[2]), true);
-        }
-        for (long[] axle : axles) {
-            due("axle", x.axle(axle[0], axle[1]), true);
-        }
-        return x;
-    }
-
-    private static void dueRating(String what, HeavyRoutes x, long upper, long lower) {
-        due(what + ", upper", x.rating(0, 0), upper);
-        due(what + ", lower", x.rating(0, 1), lower);
-        due(what + ", kept", x.kept(0), true);
-    }
-
-    private static void dueRoads(String what, HeavyRoutes x, int... roads) {
-        due(what + ": roads", x.count(4), roads.length);
-        for (int i = 0; i < roads.length; i++) {
-            due(what + ": road " + i, x.road2(i), roads[i]);
-        }
-        due(what + ": no further road", x.road2(roads.length), BAD);
     }
 
     private static void dueGone(String what, HeavyRoutes x) {
@@ -680,21 +610,6 @@ public final class PromisesTest {
         y.row(0, 5, 201, 1000);
         due("a rating above 1 does not", y.bars(0, 1), 4);
         due("a rating above 1 does not", y.run(0, 1, 0), -1);
-    }
-
-    /**
-     * From 0 to 3: by 1 (roads 0 1, 20 minutes), by 2 (2 3, 26), by 2 and 1 (2 4 1, 28), by 1 and 2 (0 4 3, 32), and by
-     * road 5 (40).
-     */
-    private static HeavyRoutes withFiveWays() {
-        HeavyRoutes x = withNodes(4);
-        lay(x, 0, 1, 10);
-        lay(x, 1, 3, 10);
-        lay(x, 0, 2, 11);
-        lay(x, 2, 3, 15);
-        lay(x, 1, 2, 7);
-        lay(x, 0, 3, 40);
-        return x;
     }
 
     private static void promise16Alternate() {
