@@ -86,7 +86,8 @@ abstract class Boundaries extends Samples {
             long atLeast, long atGreatest, long refused) {
         due(what + " " + least, call.on(sample.get(), least), atLeast);
         due(what + " " + greatest, call.on(sample.get(), greatest), atGreatest);
-        for (long value : new long[] {least - 1, greatest + 1, Long.MIN_VALUE, Long.MAX_VALUE, least + FAR, greatest - FAR}) {
+        long[] beyond = {least - 1, greatest + 1, Long.MIN_VALUE, Long.MAX_VALUE, least + FAR, greatest - FAR};
+        for (long value : beyond) {
             dueRefused(what + " " + value, sample, x -> call.on(x, value), refused);
         }
     }

@@ -46,18 +46,19 @@ public final class RatingBoundariesTest extends Boundaries {
 
     @Sentence(promise = 10, words = "A bridge's rating")
     static void onTheStraightLineBetweenTwoCorners() {
-        // The first axle at 0, the second one 1 to 59 of 60 up the line, or the second one at 60 and the first one below.
+        // One axle at 60, where the row is 1, the other one at so many sixtieths.
         long[][] line = {{0, 0, 1}, {60, 1, 1}};
         dueRating("just below the upper corner", rated(line, new long[][] {{0, 1}, {1, 1}}), 119, 60);
         dueRating("half way", rated(line, new long[][] {{0, 1}, {30, 1}}), 3, 2);
         dueRating("just above the lower corner", rated(line, new long[][] {{0, 1}, {29, 0}, {30, 1}}), 61, 60);
         dueRating("at the lower corner", rated(line, new long[][] {{0, 1}, {30, 0}, {30, 1}}), 1, 1);
-        dueRating("corners side by side", rated(new long[][] {{59, 1, 7}, {60, 1, 9}}, new long[][] {{0, 1}, {1, 1}}), 16, 63);
+        long[][] sideBySide = {{59, 1, 7}, {60, 1, 9}};
+        dueRating("corners side by side", rated(sideBySide, new long[][] {{0, 1}, {1, 1}}), 16, 63);
     }
 
     @Sentence(promise = 10, words = "A bridge's rating")
     static void forwardAndBackward() {
-        // The first axle at the single corner that counts, the heavy one where the row is 1 / 2, before it or behind it.
+        // The heavy axle at 20, where the row is 1, the other one where it is 1 / 2, before it or behind it.
         long[][] before = {{10, 1, 2}, {20, 1, 1}, {30, 0, 1}};
         long[][] behind = {{10, 0, 1}, {20, 1, 1}, {30, 1, 2}};
         long[][] axles = {{0, 5}, {10, 4}};
@@ -135,6 +136,27 @@ public final class RatingBoundariesTest extends Boundaries {
             new long[][] {{5, 381, 881}, {20, 245, 907}, {36, 286, 929}, {39, 16, 971}, {45, 6, 827}, {52, 117, 977}},
             new long[][] {{0, 1}, {4, 1}, {12, 0}, {14, 1}, {14, 1}}),
             207840684294543889L, 7646647861106960L);
+    }
+
+    @Sentence(promise = 10, words = "(of each the lowest eighteen digits)")
+    static void manyDigitsWhereSomeAxlesRelieve() {
+        dueRating("relieved by two", rated(
+            new long[][] {{9, 469, 929}, {24, -362, 977}, {29, 656, 971}, {31, 637, 967}, {42, 405, 937}, {57, -143, 911}},
+            new long[][] {{0, 174}, {11, 515}, {8, 958}, {10, 353}, {1, 149}}),
+            780061342837005582L, 32235287905556055L);
+        dueRating("relieved by more", rated(
+            new long[][] {{1, -963, 919}, {27, 277, 947}, {28, 509, 941}, {40, -85, 997}, {43, -367, 983}, {57, -728, 937}},
+            new long[][] {{0, 283}, {12, 764}, {4, 256}, {2, 794}, {9, 752}}),
+            573328137934711L, 616147056479253526L);
+    }
+
+    @Sentence(promise = 10, words = "(of each the lowest eighteen digits)")
+    static void theGreatestLoadsOnTheGreatestValues() {
+        // Belows and gaps that have nothing in common: parts of twenty-six and of twenty-two digits.
+        dueRating("by six belows and four gaps", rated(
+            new long[][] {{0, 1000, 997}, {9, 1000, 991}, {19, 1000, 983}, {30, 1000, 977}, {43, 1000, 971}, {60, 1000, 967}},
+            new long[][] {{0, 1000}, {14, 997}, {13, 996}, {14, 990}, {12, 993}}),
+            735976290407748000L, 836987295513502357L);
     }
 
     @Sentence(promise = 10, words = "(of each the lowest eighteen digits)")

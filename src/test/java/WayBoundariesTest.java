@@ -24,6 +24,60 @@ public final class WayBoundariesTest extends Boundaries {
         due("begun in the first minute", x.begun(0), 0);
     }
 
+    @Sentence(promise = 12, words = "The best way from a node to another one")
+    static void theBetterOfTwoWaysThatAreAlmostAlike() {
+        // From 0 to 2 by road 2, and by roads 0 1; then bridges on some of them, and road 2 made longer or not.
+        int[][] bridges = {{}, {2}, {0}, {0, 2}, {2, 0, 1}};
+        boolean[] shorter = {true, false, true, true, true};
+        for (int i = 0; i < bridges.length; i++) {
+            for (int minutes = 19; minutes <= 21; minutes++) {
+                HeavyRoutes x = withNodes(3);
+                lay(x, 0, 1, 10);
+                lay(x, 1, 2, 10);
+                lay(x, 0, 2, minutes);
+                for (int road : bridges[i]) {
+                    x.bridge(road);
+                }
+                x.run(0, 2, 0);
+                boolean byRoad2 = minutes < 20 || minutes == 20 && shorter[i];
+                due("case " + i + ", " + minutes + " minutes", x.road2(0), byRoad2 ? 2 : 0);
+            }
+        }
+        HeavyRoutes x = withNodes(4);
+        int[][] ends = {{2, 3}, {1, 3}, {1, 3}, {0, 1}, {0, 2}};
+        for (int[] end : ends) {
+            lay(x, end[0], end[1], 10);
+        }
+        x.run(0, 3, 0);
+        dueRoads("the lesser number where they differ first", x, 3, 1);
+        x.alternate(1, 1);
+        dueRoads("the lesser number where they differ first, at the end", x, 3, 2);
+        x.alternate(1, 1);
+        dueRoads("the lesser number where they differ first, not the least of all", x, 4, 0);
+        x.run(3, 0, 0);
+        dueRoads("back", x, 0, 4);
+    }
+
+    @Sentence(promise = 12, words = "The best way from a node to another one")
+    static void aWayComesToNoNodeTwice() {
+        HeavyRoutes between = withNodes(4);
+        lay(between, 0, 1, 10);
+        lay(between, 1, 2, 10);
+        lay(between, 1, 3, 10);
+        lay(between, 3, 1, 10);
+        between.turn(0, 1, false);
+        due("round by 3 to a node between again, the turn would pass", between.run(0, 2, 0), -1);
+        due("no way", between.count(6), 0);
+        HeavyRoutes ends = withNodes(3);
+        lay(ends, 0, 1, 10);
+        lay(ends, 0, 2, 10);
+        lay(ends, 2, 0, 10);
+        due("run", ends.run(0, 1, 0), 10);
+        due("not round by 2 to its beginning again", ends.count(6), 1);
+        due("run", ends.run(1, 0, 0), 10);
+        due("not round by 2 to its end again", ends.count(6), 1);
+    }
+
     @Sentence(promise = 12, words = "after how many minutes it ends")
     static void howLongWaysTake() {
         HeavyRoutes least = withNodes(2);
@@ -410,7 +464,7 @@ public final class WayBoundariesTest extends Boundaries {
         }
     }
 
-    @Sentence(promise = 18, words = "each as early as can be: after how many minutes from the first one's beginning all have come")
+    @Sentence(promise = 18, words = "after how many minutes from the first one's beginning all have come")
     static void aConvoyAtBarredHours() {
         HeavyRoutes x = withRoads(1);
         x.hours(0, 1400, 20);
@@ -648,7 +702,7 @@ public final class WayBoundariesTest extends Boundaries {
         due("after one", x.count(6), 5);
     }
 
-    @Sentence(promise = 23, words = "6 how many ways there are between the nodes of the last run() by roads as they are now")
+    @Sentence(promise = 23, words = "between the nodes of the last run() by roads as they are now")
     static void countsOfWaysAsRoadsAreNow() {
         HeavyRoutes x = withFiveWays();
         x.run(3, 0, 0);
