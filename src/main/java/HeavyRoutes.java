@@ -290,10 +290,10 @@ public final class HeavyRoutes {
     }
 
     /**
-     * A whole number from 0 up, below 10^36. A rating's parts do not fit a long: its lower part stays below 10^24 (six
-     * values' scale is below 10^18, that of five gaps within 60 places 218790 at most), its upper part below 10^31 (no
-     * effect is above 5 times 1000 times 1000). The base is decimal because the document asks for the lowest eighteen
-     * digits.
+     * A whole number from 0 up, below 10^36. A rating's parts do not fit a long: its lower part stays below 10^24 (the
+     * scale of six values is below 10^18, that of five gaps within 60 places 218790 at most), its upper part below
+     * 10^31 (no effect is above 5 * 1000 * 1000). The base is decimal because the document asks for the lowest
+     * eighteen digits.
      */
     private static final class Wide {
         private static final int LIMBS = 4;
