@@ -2,6 +2,9 @@ import java.util.function.Supplier;
 
 /** Boundary cases of what is told of the net and the journey: promises 1 to 9, 17 and 22. */
 public final class NetBoundariesTest extends Boundaries {
+    // A row that is 1 at the first place and at the last one, and 0 elsewhere.
+    private static final long[][] BOTH_ENDS = {{0, 1, 1}, {1, 0, 1}, {59, 0, 1}, {60, 1, 1}};
+
     public static void main(String[] args) {
         runAll(NetBoundariesTest.class);
     }
@@ -262,9 +265,8 @@ public final class NetBoundariesTest extends Boundaries {
     @Sentence(promise = 5, words = "the place is not 0 .. 60")
     static void aCornersPlace() {
         dueLongs("place", Boundaries::rich, 0, 60, (x, at) -> bit(x.row(1, at, 1, 1)), 1, 1, 0);
-        // A corner at 0 and one at 60: four axles span just as much.
-        HeavyRoutes x = rated(new long[][] {{0, 1, 1}, {60, 1, 1}}, new long[][] {{0, 1}, {30, 0}, {30, 1}});
-        dueRating("from the first place to the last one", x, 2, 1);
+        dueRating("sixty apart", rated(BOTH_ENDS, new long[][] {{0, 1}, {30, 0}, {30, 1}}), 2, 1);
+        dueRating("fifty-nine apart", rated(BOTH_ENDS, new long[][] {{0, 1}, {30, 0}, {29, 1}}), 1, 1);
     }
 
     @Sentence(promise = 5, words = "or not above the last one")
@@ -285,8 +287,8 @@ public final class NetBoundariesTest extends Boundaries {
     static void aCornersUpperValue() {
         dueLongs("above", Boundaries::rich, -1000, 1000, (x, above) -> bit(x.row(0, 60, above, 1)), 1, 1, 0);
         dueRating("the greatest value", rated(new long[][] {{0, 1000, 1}}, new long[][] {{0, 1}}), 1000, 1);
+        // The second axle at 1, and the first one off the row; were that at 0, there would be 1000 less.
         HeavyRoutes x = rated(new long[][] {{0, -1000, 1}, {1, 1000, 1}}, new long[][] {{0, 1}, {1, 2}});
-        // The second axle at 1, the first one off the row: were it at 0, 1000 less.
         dueRating("the least value", x, 2000, 1);
         dueRating("the least value alone", rated(new long[][] {{0, -1000, 1}}, new long[][] {{0, 1}}), 0, 1);
     }
@@ -319,9 +321,8 @@ public final class NetBoundariesTest extends Boundaries {
     @Sentence(promise = 6, words = "1 .. 30 behind the last one")
     static void howFarBehindAnAxleIs() {
         dueLongs("behind", Boundaries::rich, 1, 30, (x, behind) -> bit(x.axle(behind, 1)), 1, 1, 0);
-        // Thirty behind the last one, not the first one: with the third axle, the row is as long as they are.
-        HeavyRoutes x = rated(new long[][] {{0, 1, 1}, {60, 1, 1}}, new long[][] {{0, 1}, {30, 1}, {30, 1}});
-        dueRating("sixty behind the first one", x, 3, 1);
+        // Thirty behind the last one, not behind the first one.
+        dueRating("sixty behind the first one", rated(BOTH_ENDS, new long[][] {{0, 3}, {30, 1}, {30, 4}}), 7, 1);
         HeavyRoutes y = rated(new long[][] {{0, 1, 1}, {1, 1, 1}}, new long[][] {{0, 1}, {1, 1}});
         dueRating("one behind", y, 2, 1);
     }

@@ -30,7 +30,7 @@ public final class RatingBoundariesTest extends Boundaries {
         dueRating("one off the row", rated(balanced, new long[][] {{0, 1}, {10, 1}}), 1, 3);
         HeavyRoutes x = rated(balanced, new long[][] {{0, 0}, {5, 1}});
         x.row(0, 20, -1000, 1);
-        dueRating("no load where the row is above 0", x, 1, 3);
+        dueRating("an axle without a load counts for nothing", x, 1, 3);
     }
 
     @Sentence(promise = 10, words = "A bridge's rating")
@@ -172,7 +172,7 @@ public final class RatingBoundariesTest extends Boundaries {
         HeavyRoutes heavy = rated(
             new long[][] {{26, 859, 971}, {30, 471, 929}, {31, 351, 863}, {35, 166, 983}, {48, 201, 853}, {59, 680, 971}},
             new long[][] {{0, 965}, {2, 307}, {6, 163}, {12, 493}, {4, 754}});
-        dueRating("1457, though the digits look like more", heavy, 9439636647781717L, 373374210596577476L);
+        dueRating("1457, though the digits look like less than 1", heavy, 9439636647781717L, 373374210596577476L);
         due("its bridge does not bear", heavy.bars(0, 1), 4);
         HeavyRoutes light = rated(
             new long[][] {{13, 182, 937}, {21, 102, 877}, {29, 6, 829}, {35, 112, 983}, {50, 297, 941}, {54, 119, 827}},
