@@ -165,6 +165,15 @@ public final class RatingBoundariesTest extends Boundaries {
             new long[][] {{0, 1000, 997}, {9, 1000, 991}, {19, 1000, 983}, {30, 1000, 977}, {43, 1000, 971}, {60, 1000, 967}},
             new long[][] {{0, 1000}, {14, 997}, {13, 996}, {14, 990}, {12, 993}}),
             735976290407748000L, 836987295513502357L);
+        // Told by the common part of all effects, before it is brought to least terms, an effect has twenty-eight digits.
+        dueRating("told whole in the end", rated(
+            new long[][] {{0, 1000, 1000}, {9, 1000, 999}, {19, 1000, 997}, {30, 1000, 991}, {43, 1000, 983}, {60, 1000, 989}},
+            new long[][] {{0, 1000}, {1, 1000}, {1, 1000}, {1, 1000}, {1, 1000}}),
+            1082411103000000L, 212919647057L);
+        dueRating("twenty-seven digits", rated(
+            new long[][] {{0, 999, 1000}, {10, 997, 999}, {27, 995, 989}, {38, 999, 983}, {47, 993, 991}, {60, 996, 997}},
+            new long[][] {{0, 997}, {10, 997}, {11, 997}, {8, 999}, {16, 995}}),
+            900147307506939643L, 546795048448810000L);
     }
 
     @Sentence(promise = 10, words = "(of each the lowest eighteen digits)")
