@@ -156,6 +156,10 @@ public final class RatingBoundariesTest extends Boundaries {
             new long[][] {{11, 437, 821}, {18, -171, 853}, {31, 190, 919}, {33, 369, 991}, {38, 330, 937}, {57, -225, 857}},
             new long[][] {{0, 218}, {8, 767}, {5, 71}, {9, 422}, {12, 256}}),
             136480036806163586L, 271914484028391295L);
+        dueRating("nineteen digits, nine nines among them", rated(
+            new long[][] {{0, 991, 997}, {1, 983, 991}, {2, -37, 983}, {3, 967, 977}, {4, 953, 971}},
+            new long[][] {{0, 966}, {1, 921}, {1, 120}, {1, 705}, {1, 702}}),
+            999999999799712404L, 921374363638847L);
     }
 
     @Sentence(promise = 10, words = "(of each the lowest eighteen digits)")
